@@ -1,5 +1,3 @@
-import java.lang.reflect.InvocationTargetException;
-import java.lang.reflect.Method;
 import java.util.TreeSet;
 import java.util.regex.Matcher;
 import java.util.regex.Pattern;
@@ -65,56 +63,13 @@ final class Runs {
             return;
         }
         int times = call.group(1) == null ? 1 : Integer.parseInt(call.group(1));
+        String[] words = call.group(3).isEmpty() ? new String[0] : call.group(3).split(", ");
         for (int i = 0; i < times; i++) {
-            String got = answer(house, call.group(2), call.group(3));
+            String got = Calls.answer(house, call.group(2), words);
             String due = call.group(4);
-            if (due == null ? got.startsWith("throws.") : !got.equals(due)) {
+            if (due == null ? got.startsWith("throws.") || got.startsWith("no") : !got.equals(due)) {
                 wrong(where + ": " + line + ", but it answered " + got);
             }
         }
-    }
-
-    /** What a call answers, as a text; "throws." and the name of an exception where it throws. */
-    static String answer(Tillhouse house, String name, String arguments) {
-        String[] words = arguments.isBlank() ? new String[0] : arguments.split(", ");
-        for (Method method : Tillhouse.class.getDeclaredMethods()) {
-            if (method.getName().equals(name) && method.getParameterCount() == words.length) {
-                return answer(house, method, words);
-            }
-        }
-        return "no such method";
-    }
-
-    private static String answer(Tillhouse house, Method method, String[] words) {
-        Object[] arguments = new Object[words.length];
-        for (int i = 0; i < words.length; i++) {
-            arguments[i] = argument(method.getParameterTypes()[i], words[i]);
-        }
-        try {
-            return String.valueOf(method.invoke(house, arguments));
-        } catch (InvocationTargetException e) {
-            return thrown(e.getCause());
-        } catch (IllegalAccessException e) {
-            return "not public";
-        }
-    }
-
-    static String thrown(Throwable e) {
-        // what the machine throws has a class of its own, or this message
-        boolean isOfMachine = "/ by zero".equals(e.getMessage());
-        return "throws." + e.getClass().getSimpleName() + (isOfMachine ? ".ofTheMachine" : "");
-    }
-
-    private static Object argument(Class<?> type, String word) {
-        if (type == int.class) {
-            return Integer.valueOf(word);
-        }
-        if (type == long.class) {
-            return Long.valueOf(word);
-        }
-        if (type == boolean.class) {
-            return Boolean.valueOf(word);
-        }
-        return word.startsWith("'") ? word.charAt(1) : (char) Integer.parseInt(word);
     }
 }
