@@ -286,7 +286,7 @@ public final class Tillhouse {
 
     public long lost(int currency, int other, long units) throws IndexOutOfBoundsException, IllegalArgumentException, NoSuchElementException, ArithmeticException {
         checkChange(currency, other, units);
-        // a missing rate back is told ahead of a refused rounding on the way there
+        // a missing rate back is told ahead of a refused rounding there
         checkRate(other, currency);
         return units - changed(other, currency, changed(currency, other, units));
     }
@@ -324,7 +324,6 @@ public final class Tillhouse {
         checkCurrency(other);
         checkUnlike(currency, other);
         checkRange(units, 0, MOST_MONEY);
-        checkRate(currency, other);
     }
 
     private long changed(int currency, int other, long units) {
@@ -415,6 +414,7 @@ public final class Tillhouse {
         Invoice asked = invoiceAt(invoice);
         long gross = asked.netSum(modeOf(asked)) + asked.taxSum(modeOf(asked));
         int cash = currencies[asked.currency].cash;
+        // the gross is never below 0: farther from 0 is greater
         return Reckoning.quotient(gross, cash, 'h') * cash;
     }
 
@@ -900,6 +900,7 @@ public final class Tillhouse {
         long cut;
         long remainder;
 
+        /** Of a size, from 0, by a divisor above 0; who calls has looked at it. */
         Division(long size, long divisor) {
             this.divisor = Math.max(divisor, 1);
             cut = size / this.divisor;

@@ -92,7 +92,10 @@ public final class CurrenciesTest {
             "100000000000000001 19 2 2 u 100 2", "100000000000000001 19 2 2 h 100 1", "100000000000000001 19 2 2 n 100 x",
             "100000000000000000 19 2 2 n 100 1", "999999999990000000 11 2 2 h 100000000001 x",
             "999999999990000000 11 2 2 d 100000000001 999999999999999999", "123456789012345678 17 2 2 d 987654321098 1219326311369",
-            "123456789012345678 6 2 2 n 987654000000 x"};
+            "123456789012345678 6 2 2 n 987654000000 x", "341486765328446386 13 2 2 d 418542625292 14292676726304107",
+            "489568564877214635 12 2 2 h 487878315815 238849886908262038",
+            "452868065513989786 19 2 2 h 446588483985 20224566282",
+            "395357543911759091 12 2 2 h 924415624430 365474690828299925"};
         for (String each : cases) {
             String[] words = each.split(" ");
             String due = words[6].equals("x") ? "throws.ArithmeticException" : words[6];
@@ -173,6 +176,33 @@ public final class CurrenciesTest {
             lost(0, 1, 1000000000000) = -999998999999999999
             setRate(1, 0, 2) = true
             lost(0, 1, 1000000000000) = throws.ArithmeticException
+            """);
+        // as much as can come on the way, and as small a rate as there can be back
+        RUNS.promise(22, """
+            put(0, 999999999999999999, 0)
+            put(1, 999999999999999999, 36)
+            setRate(0, 1, 0) = false
+            setRate(1, 0, 1) = false
+            lost(0, 1, 1) = 0
+            setCurrency(0, 2, 'd', 1) = 2
+            lost(0, 1, 1) = 1
+            put(0, 800000000000000000, 0)
+            put(1, 625000000000000000, 36)
+            setRate(0, 1, 0) = true
+            setRate(1, 0, 1) = true
+            setCurrency(0, 2, 'l', 1) = 2
+            lost(0, 1, 1) = 1
+            setCurrency(0, 2, 'h', 1) = 2
+            lost(0, 1, 1) = 0
+            put(1, 625000000000000001, 36)
+            setRate(1, 0, 1) = true
+            setCurrency(0, 2, 'l', 1) = 2
+            lost(0, 1, 1) = 0
+            setCurrency(0, 0, 'l', 1) = 2
+            setCurrency(1, 3, 'h', 1) = 2
+            put(0, 8, -15)
+            setRate(0, 1, 0) = true
+            lost(0, 1, 0) = 0
             """);
     }
 }

@@ -218,6 +218,23 @@ public final class LedgerTest {
             line(3, 1, 500, 1) = 0
             book(3) = throws.ArithmeticException
             """);
+        // entries of one unit each
+        RUNS.promise(39, """
+            setTax(0, 0, 5000) = 1
+            open(10, 0, true) = 0
+            line(0, 0, 1000, 1) = 0
+            taxOf(0) = 1
+            199 times post(10, 1, 2, 1)
+            book(0) = throws.IllegalStateException
+            undo() = 198
+            book(0) = 200
+            undo() = 198
+            open(10, 0, true) = 1
+            line(1, 1, 1000, 1) = 0
+            post(10, 1, 2, 1) = 199
+            post(10, 1, 2, 1) = 200
+            book(1) = throws.IllegalStateException
+            """);
         // all bookings without an entry, and all entries
         StringBuilder calls = new StringBuilder("200 times post(10, 1, 2, 1)\n");
         for (int i = 0; i < 20; i++) {
