@@ -29,6 +29,11 @@ final class Calls {
         }
     }
 
+    /** The type of an argument of a method of the house. */
+    static Class<?> argumentType(String name, int place) {
+        return methodsOf(Tillhouse.class).get(name).getParameterTypes()[place];
+    }
+
     private static Map<String, Method> methodsOf(Class<?> type) {
         Map<String, Method> known = METHODS.get(type);
         if (known == null) {

@@ -4,8 +4,8 @@ import java.util.List;
 
 /** Long runs of drawn calls, on a house and on the model; they always draw the same. */
 public final class ModelTest {
-    private static final int RUNS = 1_500;
-    private static final int CALLS = 400;
+    private static final int RUNS = 2_200;
+    private static final int CALLS = 280;
     private static final String MODES = "udcfhlen";
 
     private static final String[] VALUES = {"put", "put", "put", "join", "join", "join", "turn", "move", "setScale",
