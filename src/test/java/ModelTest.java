@@ -5,7 +5,6 @@ import java.util.List;
 /** Long runs of drawn calls, on a house and on the model; they always draw the same. */
 public final class ModelTest {
     private static final int RUNS = 2_200;
-    private static final int CALLS = 280;
     private static final String MODES = "udcfhlen";
 
     private static final String[] VALUES = {"put", "put", "put", "join", "join", "join", "turn", "move", "setScale",
@@ -40,7 +39,8 @@ public final class ModelTest {
         Tillhouse house = new Tillhouse();
         Model model = new Model();
         List<String> told = new ArrayList<>();
-        for (int i = 0; i < CALLS; i++) {
+        List<String[]> last = allThatCanBeAsked();
+        for (int i = 0; i < Call.MOST - last.size(); i++) {
             String[] call = drawnCall(run);
             told.add(String.join(" ", call));
             String wrong = differs(house, model, call);
@@ -48,7 +48,7 @@ public final class ModelTest {
                 return wrong + "\nbehind " + told;
             }
         }
-        for (String[] call : allThatCanBeAsked()) {
+        for (String[] call : last) {
             String wrong = differs(house, model, call);
             if (wrong != null) {
                 return wrong + "\nat the end of " + told;
